@@ -265,7 +265,7 @@ public final class JumpLengths {
     private Layout layoutOf(int way) {
         Layout layout = way == GROWN ? grown : way == SHRUNK ? shrunk : least;
         if ((found >> way & 1) == 0) {
-            if (way == GROWN) layout.grow(now.shape);
+            if (way == GROWN) layout.growFrom(now.shape, now.shape.pins);
             else if (way == SHRUNK) layout.shrink(now.shape);
             else layout.tryAll(now.shape);
             found |= 1 << way;
@@ -368,6 +368,8 @@ public final class JumpLengths {
         final int[] values = new int[ITEMS_MOST];
         /** Of an OP, JUMP, CALL, SPOT how many of its sort are ahead of it. */
         final int[] numbers = new int[ITEMS_MOST];
+        /** Of a JUMP, a CALL which item its LABEL is. */
+        final int[] targets = new int[ITEMS_MOST];
         /** Of a LABEL which item it is, or -1. */
         final int[] labelItems = new int[LABELS];
         final int[] jumpItems = new int[JUMPS_MOST];
@@ -408,6 +410,7 @@ public final class JumpLengths {
             System.arraycopy(other.sorts, 0, sorts, 0, ITEMS_MOST);
             System.arraycopy(other.values, 0, values, 0, ITEMS_MOST);
             System.arraycopy(other.numbers, 0, numbers, 0, ITEMS_MOST);
+            System.arraycopy(other.targets, 0, targets, 0, ITEMS_MOST);
             System.arraycopy(other.labelItems, 0, labelItems, 0, LABELS);
             System.arraycopy(other.jumpItems, 0, jumpItems, 0, JUMPS_MOST);
             System.arraycopy(other.callItems, 0, callItems, 0, CALLS_MOST);
@@ -427,7 +430,7 @@ public final class JumpLengths {
             for (int told = 0; told < TEXT_MOST && text.kind != Tokens.END; told++) {
                 if (!readTold(text, told == 0)) return text.start;
             }
-            return allAreThere() ? -1 : text.length;
+            return findTargets() ? -1 : text.length;
         }
 
         private void empty() {
@@ -530,9 +533,12 @@ public final class JumpLengths {
             }
         }
 
-        private boolean allAreThere() {
+        /** False if a LABEL is not there. */
+        private boolean findTargets() {
             for (int k = 0; k < items; k++) {
-                if (goesToLabel(k) && !hasLabel(values[k])) return false;
+                if (!goesToLabel(k)) continue;
+                if (!hasLabel(values[k])) return false;
+                targets[k] = labelItems[values[k]];
             }
             return true;
         }
@@ -653,25 +659,32 @@ public final class JumpLengths {
             return at[program.items];
         }
 
-        void grow(Shape shape) {
-            lay(shape, shape.pins);
-            rounds = lengthen(shape);
+        /** Round by round makes SHORT JUMPS that do not REACH LONG; from the PINNED ones on this is GROWN. */
+        void growFrom(Shape shape, int firstLongs) {
+            lay(shape, firstLongs);
+            rounds = 0;
+            for (int round = 0; round < JUMPS_MOST; round++) {
+                int stranded = strandedJumps(shape);
+                if (stranded == 0) return;
+                rounds++;
+                lay(shape, longs | stranded);
+            }
         }
 
         void shrink(Shape shape) {
-            rounds = 0;
+            int shrinking = 0;
             int held = 0;
             lay(shape, program.allJumps());
             // A jump that was made SHORT stays so or is HELD: none is made so twice.
             for (int round = 0; round < JUMPS_MOST; round++) {
                 int shortened = wouldReach(shape) & ~shape.pins & ~held;
-                if (shortened == 0) return;
-                rounds++;
-                lay(shape, longs & ~shortened);
-                int before = longs;
-                lengthen(shape);
-                held |= longs & ~before;
+                if (shortened == 0) break;
+                shrinking++;
+                int kept = longs & ~shortened;
+                growFrom(shape, kept);
+                held |= longs & ~kept;
             }
+            rounds = shrinking;
         }
 
         void tryAll(Shape shape) {
@@ -698,8 +711,7 @@ public final class JumpLengths {
 
         /** How far a JUMP, a CALL goes to its LABEL. */
         int farOf(int k) {
-            int label = program.values[k];
-            return program.hasLabel(label) ? at[program.labelItems[label]] - at[k + 1] : 0;
+            return at[program.targets[k]] - at[k + 1];
         }
 
         int servedCalls(Shape shape) {
@@ -779,20 +791,10 @@ public final class JumpLengths {
                 case CALL:
                     return CALL_BYTES;
                 case SPOT:
-                    return ISLAND_BYTES * shape.islandsIn(program.numbers[k]);
+                    return ISLAND_BYTES * Integer.bitCount(shape.labelsIn(program.numbers[k]));
                 default:
                     return 0;
             }
-        }
-
-        /** Rounds that make SHORT JUMPS that do not REACH LONG; how many. */
-        private int lengthen(Shape shape) {
-            for (int round = 0; round < JUMPS_MOST; round++) {
-                int stranded = strandedJumps(shape);
-                if (stranded == 0) return round;
-                lay(shape, longs | stranded);
-            }
-            return JUMPS_MOST;
         }
 
         private int strandedJumps(Shape shape) {
@@ -863,7 +865,7 @@ public final class JumpLengths {
             tried.becomeAs(now);
             for (int reach = REACH_LEAST; reach <= REACH_MOST; reach++) {
                 tried.reach = reach;
-                layout.grow(tried);
+                layout.growFrom(tried, tried.pins);
                 if (layout.longs == now.pins) return reach;
             }
             return NONE;
@@ -894,7 +896,7 @@ public final class JumpLengths {
                 for (int op = 0; op < ops; op++) {
                     tried.sizes[firstOps[op]] = now.sizes[firstOps[op]] + (longer >> op & 1);
                 }
-                layout.grow(tried);
+                layout.growFrom(tried, tried.pins);
                 int many = Integer.bitCount(longer);
                 if (layout.isLong(jump)) sum += power(x, many) * power(ODDS_OF - x, ops - many);
             }
@@ -920,7 +922,7 @@ public final class JumpLengths {
             // Where all lies depends on how many islands a spot has, not on whose they are.
             int counts = tried.islandsIn(0) | tried.islandsIn(1) << 4 | tried.islandsIn(2) << 8;
             if (counts != laidFor) {
-                layout.grow(tried);
+                layout.growFrom(tried, tried.pins);
                 laidFor = counts;
             }
             return layout.servesAll(tried);
