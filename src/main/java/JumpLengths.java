@@ -23,6 +23,7 @@ public final class JumpLengths {
     private static final int OP_BYTE = 16, SHORT_BYTE = 1, LONG_BYTE = 2, CALL_BYTE = 3, ISLAND_BYTE = 4;
 
     private static final int GROWN = 0, SHRUNK = 1, LEAST = 2, WAYS = 3;
+    private static final int FEWEST = 3;
 
     private final Tokens text = new Tokens();
     /** A text is read into the draft, so that a FAULT leaves the program as it is. */
@@ -35,7 +36,9 @@ public final class JumpLengths {
     private final Layout shrunk = new Layout(program);
     private final Layout least = new Layout(program);
     private final Search search = new Search(program);
-    /** The ways (as bits) whose layouts are those of what is now; LEAST is too dear to find at every call. */
+    /** FEWEST as bits, or NONE. */
+    private int fewestFound = NONE;
+    /** What (bits by ways, and FEWEST) is found for what is now; LEAST and FEWEST are too dear to find at every call. */
     private int found = 0;
 
     public JumpLengths() {
@@ -183,9 +186,12 @@ public final class JumpLengths {
 
     public int fewest(int what) {
         if (what < 0 || what > 1) return BAD;
-        int islands = search.fewestIslands(now.shape);
-        if (islands < 0) return NONE;
-        return what == 0 ? Integer.bitCount(islands) : islands;
+        if ((found >> FEWEST & 1) == 0) {
+            fewestFound = search.fewestIslands(now.shape);
+            found |= 1 << FEWEST;
+        }
+        if (fewestFound < 0) return NONE;
+        return what == 0 ? Integer.bitCount(fewestFound) : fewestFound;
     }
 
     public int odds(int k, int x, int what) {
