@@ -38,7 +38,7 @@ public final class JumpLengths {
     private final Search search = new Search(program);
     /** FEWEST as bits, or NONE. */
     private int fewestFound = NONE;
-    /** What (bits by ways, and FEWEST) is found for what is now; LEAST and FEWEST are too dear to find at every call. */
+    /** Bits (by ways, and FEWEST) of what is found for what is now: LEAST, FEWEST are too dear for every call. */
     private int found = 0;
 
     public JumpLengths() {
