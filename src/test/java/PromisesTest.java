@@ -2,60 +2,7 @@
  * Each promise of the document by itself, with answers worked out by hand: ordinary inputs, the
  * edges that the document names, and wrong inputs.
  */
-public final class PromisesTest {
-    private static final int BAD = -1, STATE = -2, FULL = -3, NONE = -9, NO = -1000000;
-    private static final int LOWEST = Integer.MIN_VALUE, HIGHEST = Integer.MAX_VALUE;
-    private static int wrong = 0;
-
-    private static void due(String call, int got, int want) {
-        if (got == want) return;
-        wrong++;
-        System.out.println(call + " answered " + got + ", due is " + want);
-    }
-
-    private static void type(JumpLengths x, String text) {
-        for (char c : text.toCharArray()) x.type(c);
-    }
-
-    private static JumpLengths told(String text) {
-        JumpLengths x = new JumpLengths();
-        type(x, text);
-        if (x.source() < 0) due("source of " + text, -1, 0);
-        return x;
-    }
-
-    private static void fault(String text, int place) {
-        JumpLengths x = new JumpLengths();
-        type(x, text);
-        due("source of '" + text + "'", x.source(), -10 - place);
-        due("the text behind the fault of '" + text + "'", x.count(8), text.length());
-        due("the items behind the fault of '" + text + "'", x.count(0), 0);
-        due("the reach behind the fault of '" + text + "'", x.count(5), 20);
-    }
-
-    private static void right(String text, int items) {
-        JumpLengths x = new JumpLengths();
-        type(x, text);
-        due("source of '" + text + "'", x.source(), items);
-        due("the items of '" + text + "'", x.count(0), items);
-        due("the text behind '" + text + "'", x.count(8), 0);
-    }
-
-    private static void ways(JumpLengths x, String text, int way, int... wants) {
-        for (int what = 0; what < wants.length; what++) {
-            due("way(" + way + ", " + what + ") of '" + text + "'", x.way(way, what), wants[what]);
-        }
-    }
-
-    private static void counts(JumpLengths x, String when, int... wants) {
-        for (int what = 0; what < wants.length; what++) due("count(" + what + ") " + when, x.count(what), wants[what]);
-    }
-
-    private static void code(JumpLengths x, int way, int... wants) {
-        for (int i = 0; i < wants.length; i++) due("code(" + way + ", " + i + ")", x.code(way, i), wants[i]);
-        due("code(" + way + ", its size)", x.code(way, wants.length), BAD);
-    }
-
+public final class PromisesTest extends Checks {
     private static void newObject() {
         JumpLengths x = new JumpLengths();
         counts(x, "of a new object", 0, 0, 0, 0, 0, 20, 0, 0, 0);
@@ -700,33 +647,7 @@ public final class PromisesTest {
         due("NO", JumpLengths.NO, NO);
     }
 
-    public static void main(String[] args) {
-        constants();
-        newObject();
-        typing();
-        clearing();
-        readingRight();
-        readingFaults();
-        readingAnew();
-        items();
-        sizing();
-        pinning();
-        islands();
-        undoing();
-        undoingMixed();
-        threeWays();
-        reaches();
-        lying();
-        coding();
-        codingIslands();
-        origins();
-        narrowing();
-        fewestIslands();
-        chances();
-        keepingAndBack();
-        pastsOfImages();
-        counting();
-        System.out.println(wrong == 0 ? "all promises hold" : wrong + " answers are not as due");
-        if (wrong != 0) System.exit(1);
+    public static void main(String[] args) throws IllegalAccessException {
+        runAll(PromisesTest.class);
     }
 }
