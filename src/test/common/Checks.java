@@ -129,4 +129,18 @@ abstract class Checks {
             due("code(" + way + ", " + (first + i) + ")", x.code(way, first + i), wants[i]);
         }
     }
+
+    static void fewest(String text, int many, int which) {
+        JumpLengths x = told(text);
+        due("fewest(0) of '" + text + "'", x.fewest(0), many);
+        due("fewest(1) of '" + text + "'", x.fewest(1), which);
+        due("no island is placed by it", x.count(6), 0);
+        due("nothing may be undone of it", x.count(7), 0);
+    }
+
+    static void odds(String text, int k, int x, int upper, int lower) {
+        JumpLengths object = told(text);
+        due("odds(" + k + ", " + x + ", 0) of '" + text + "'", object.odds(k, x, 0), upper);
+        due("odds(" + k + ", " + x + ", 1) of '" + text + "'", object.odds(k, x, 1), lower);
+    }
 }

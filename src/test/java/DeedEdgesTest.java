@@ -309,37 +309,67 @@ public final class DeedEdgesTest extends Checks {
         }
     }
 
-    private static void theEleventhOfEachSort() {
+    /** One of the sort is done and so many others behind it; then all that are known are undone. */
+    private static void undoneBehindOthers(int sort, int others, boolean isLost) {
+        JumpLengths x = told(ALL_SORTS + "j a;");
+        if (sort == 0) x.sizes(OP, 60);
+        if (sort == 1) x.pins(JUMP);
+        if (sort >= 2) x.places(0, 0);
+        if (sort == 3) x.takes(0, 0);
+        for (int n = 0; n < others; n++) x.pins(6);
+        for (int n = 9; n >= 0; n--) due("undo of ten", x.undo(), n);
+        due("undo of none", x.undo(), STATE);
+        due("the size", x.item(OP, 1), isLost && sort == 0 ? 60 : 7);
+        due("whether it is pinned", x.item(JUMP, 2), isLost && sort == 1 ? 1 : 0);
+        // Of a TAKEN one that is known the PLACED one ahead of it is lost.
+        boolean isPlaced = sort == 2 && isLost || sort == 3 && !isLost;
+        due("the islands", x.count(6), isPlaced ? 1 : 0);
+    }
+
+    private static void theTenthAndTheEleventhOfEachSort() {
         says("Terms", "UNDONE: the latest SIZED, PINNED (or no more), PLACED, TAKEN");
-        for (int lost = 0; lost < 4; lost++) {
-            JumpLengths x = told(ALL_SORTS + "j a;");
-            // The first is lost by the eleventh, and stays done.
-            if (lost == 0) x.sizes(OP, 60);
-            if (lost == 1) x.pins(JUMP);
-            if (lost >= 2) x.places(0, 0);
-            if (lost == 3) x.takes(0, 0);
-            for (int n = 0; n < 10; n++) x.pins(6);
-            for (int n = 9; n >= 0; n--) due("undo of ten", x.undo(), n);
-            due("undo of the lost one", x.undo(), STATE);
-            due("the size", x.item(OP, 1), lost == 0 ? 60 : 7);
-            due("whether it is pinned", x.item(JUMP, 2), lost == 1 ? 1 : 0);
-            due("the islands", x.count(6), lost == 2 ? 1 : 0);
+        for (int sort = 0; sort < 4; sort++) {
+            undoneBehindOthers(sort, 9, false);
+            undoneBehindOthers(sort, 10, true);
         }
     }
 
-    private static void theTenthOfEachSort() {
-        says("Terms", "UNDONE: the latest SIZED, PINNED (or no more), PLACED, TAKEN");
-        for (int oldest = 0; oldest < 3; oldest++) {
-            JumpLengths x = told(ALL_SORTS + "j a;");
-            if (oldest == 0) x.sizes(OP, 60);
-            if (oldest == 1) x.pins(JUMP);
-            if (oldest == 2) x.places(0, 0);
-            for (int n = 0; n < 9; n++) x.pins(6);
-            for (int n = 9; n >= 0; n--) due("undo of ten", x.undo(), n);
-            due("undo of none", x.undo(), STATE);
-            due("the size", x.item(OP, 1), 7);
-            due("whether it is pinned", x.item(JUMP, 2), 0);
-            due("the islands", x.count(6), 0);
+    private static final String TWO_OF_EACH = "o5;o6;l a;l b;j a;j b;i;i;c a;";
+
+    /** All that a deed on TWO_OF_EACH changes. */
+    private static int[] seen(JumpLengths x) {
+        return new int[] {x.item(0, 1), x.item(1, 1), x.item(4, 2), x.item(5, 2), x.item(6, 1), x.item(7, 1), x.count(6),
+            x.way(0, 0), x.way(1, 0), x.way(2, 0), x.narrow(), x.fewest(1)};
+    }
+
+    private static void turnIsland(JumpLengths x, int n, int label) {
+        if (x.places(n, label) == STATE) x.takes(n, label);
+    }
+
+    private static void doDeed(JumpLengths x, int deed, int size) {
+        if (deed == 0 || deed == 1) x.sizes(deed, size);
+        if (deed == 2 || deed == 3) x.pins(deed + 2);
+        if (deed == 4) turnIsland(x, 0, 0);
+        if (deed == 5) turnIsland(x, 1, 1);
+    }
+
+    private static void allIsAsAheadOfWhatIsUndone() {
+        says("Terms", "all is as ahead of it.");
+        int deeds = 14;
+        for (int first = 0; first < 6; first++) {
+            JumpLengths x = told(TWO_OF_EACH);
+            int[][] ahead = new int[deeds][];
+            for (int n = 0; n < deeds; n++) {
+                ahead[n] = seen(x);
+                doDeed(x, (first + n) % 6, 20 + n);
+                due("count(7) behind deed " + n, x.count(7), Math.min(n + 1, 10));
+            }
+            for (int n = deeds - 1; n >= deeds - 10; n--) {
+                due("undo of deed " + n, x.undo(), n - deeds + 10);
+                int[] now = seen(x);
+                for (int i = 0; i < now.length; i++) due("what is seen, " + i + ", ahead of deed " + n, now[i], ahead[n][i]);
+            }
+            due("undo of those lost", x.undo(), STATE);
         }
     }
 
@@ -395,5 +425,19 @@ public final class DeedEdgesTest extends Checks {
         due("undo()", x.undo(), 0);
         due("the size", x.item(0, 1), 7);
         due("undo of none", x.undo(), STATE);
+    }
+
+    private static void the512thCall() {
+        says("What it is", "An object is used for at most 512 calls after it has been made");
+        JumpLengths x = told("o1;l a;j a;i;");
+        int calls = "o1;l a;j a;i;".length() + 1;
+        for (int n = 0; calls < 508; n++) {
+            due("sizes, call " + calls, x.sizes(0, 2 + n % 2), n == 0 ? 1 : 3 - n % 2);
+            calls++;
+        }
+        due("call 509", x.pins(2), 1);
+        due("call 510", x.places(0, 0), 1);
+        due("call 511", x.undo(), 9);
+        due("call 512", x.way(2, 0), 3 + 5);
     }
 }

@@ -59,6 +59,41 @@ public final class ImageEdgesTest extends Checks {
         due("islands of the other, undone", x.count(6), 2);
     }
 
+    private static void whatAnImageHasToBeUndoneIsItsOwn() {
+        says("Terms", "IMAGES 0, 1 keep NOW (SIZES, who is PINNED, ISLANDS, what may be UNDONE); nothing else.");
+        JumpLengths x = told("l a;j a;o5;o6;i;j a;");
+        for (int n = 0; n < 5; n++) {
+            x.sizes(3, 10 + n);
+            x.pins(5);
+        }
+        x.keep(0);
+        for (int n = 0; n < 5; n++) {
+            x.pins(1);
+            x.sizes(2, 20 + n);
+        }
+        x.keep(1);
+        for (int n = 0; n < 5; n++) {
+            x.places(0, 0);
+            x.takes(0, 0);
+        }
+        x.back(0);
+        for (int n = 4; n >= 0; n--) {
+            due("undo of a pin", x.undo(), 2 * n + 1);
+            due("whether it is pinned", x.item(5, 2), n % 2);
+            due("undo of a size", x.undo(), 2 * n);
+            due("the size", x.item(3, 1), n == 0 ? 6 : 9 + n);
+        }
+        x.back(1);
+        for (int n = 4; n >= 0; n--) {
+            due("undo of a size", x.undo(), 2 * n + 1);
+            due("the size", x.item(2, 1), n == 0 ? 5 : 19 + n);
+            due("undo of a pin", x.undo(), 2 * n);
+            due("whether it is pinned", x.item(1, 2), n % 2);
+        }
+        due("undo of those lost", x.undo(), STATE);
+        due("the size of those lost", x.item(3, 1), 14);
+    }
+
     private static void anImageKeepsNothingElse() {
         says("Terms", "IMAGES 0, 1 keep NOW (SIZES, who is PINNED, ISLANDS, what may be UNDONE); nothing else.");
         JumpLengths x = told("o5;l a;");

@@ -413,12 +413,6 @@ public final class LengthEdgesTest extends Checks {
 
     // ---- promise 16
 
-    private static void fewest(String text, int many, int which) {
-        JumpLengths x = told(text);
-        due("fewest(0) of '" + text + "'", x.fewest(0), many);
-        due("fewest(1) of '" + text + "'", x.fewest(1), which);
-    }
-
     private static void fewestFrom0To3() {
         says("Terms", "how many (0 .. 3)");
         fewest("", 0, 0);
@@ -431,6 +425,9 @@ public final class LengthEdgesTest extends Checks {
         fewest("r40;i;c a;c b;c c;c d;o60;l a;l b;l c;l d;", NONE, NONE);
         fewest("c a;o60;l a;", NONE, NONE);
         fewest("i;o60;c a;o60;l a;", NONE, NONE);
+        // The island itself, 5 bytes, puts the call too far behind where it begins.
+        fewest("r5;i;o9;i;o9;i;c h;o60;l h;", NONE, NONE);
+        fewest("r6;i;o9;i;o9;i;c h;o60;l h;", 1, 1 << 23);
     }
 
     private static void fewestAsBits() {
@@ -456,6 +453,23 @@ public final class LengthEdgesTest extends Checks {
         due("count(6) behind fewest", x.count(6), 6);
     }
 
+    private static void fewestOfWhatIsNow() {
+        says("Terms", "by which all CALLS are SERVED in the LAYOUT GROWN then");
+        JumpLengths x = told("r9;l b;i;j b;c a;o1;l a;");
+        due("fewest(0)", x.fewest(0), 0);
+        x.sizes(4, 60);
+        due("fewest(0) of a call that is too far", x.fewest(0), 1);
+        due("fewest(1) of a call that is too far", x.fewest(1), 1);
+        x.pins(2);
+        due("fewest(0) over a jump that is long", x.fewest(0), NONE);
+        due("fewest(1) over a jump that is long", x.fewest(1), NONE);
+        x.undo();
+        due("fewest(0) over a jump that is short", x.fewest(0), 1);
+        x.undo();
+        due("fewest(0) of a call that is near", x.fewest(0), 0);
+        due("fewest(1) of a call that is near", x.fewest(1), 0);
+    }
+
     private static void whatIsAskedOfFewest() {
         says("Promise 16", "FEWEST: how many (what = 0), which (1); NONE. BAD.");
         String[] sources = {"", "i;c a;o60;l a;", "c a;o60;l a;"};
@@ -465,12 +479,6 @@ public final class LengthEdgesTest extends Checks {
     }
 
     // ---- promise 17
-
-    private static void odds(String text, int k, int x, int upper, int lower) {
-        JumpLengths object = told(text);
-        due("odds(" + k + ", " + x + ", 0) of '" + text + "'", object.odds(k, x, 0), upper);
-        due("odds(" + k + ", " + x + ", 1) of '" + text + "'", object.odds(k, x, 1), lower);
-    }
 
     private static void oddsBy0To10() {
         says("Terms", "ODDS by x (0 .. 10) for a JUMP");

@@ -1,164 +1,8 @@
 /**
- * Each promise of the document by itself, with answers worked out by hand: ordinary inputs, the
- * edges that the document names, and wrong inputs.
+ * Promises of the document with answers worked out by hand: ordinary inputs, and what comes of
+ * several calls. The edges are in the tests named by them.
  */
 public final class PromisesTest extends Checks {
-    private static void newObject() {
-        JumpLengths x = new JumpLengths();
-        counts(x, "of a new object", 0, 0, 0, 0, 0, 20, 0, 0, 0);
-        for (int way = 0; way < 3; way++) ways(x, "a new object", way, 0, 0, 0, 0, 0, 0);
-        due("item(0, 0)", x.item(0, 0), BAD);
-        due("lies(0, 0, 0)", x.lies(0, 0, 0), NO);
-        due("code(0, 0)", x.code(0, 0), BAD);
-        due("origin(2, 0)", x.origin(2, 0), BAD);
-        due("narrow()", x.narrow(), 4);
-        due("fewest(0)", x.fewest(0), 0);
-        due("fewest(1)", x.fewest(1), 0);
-        due("undo()", x.undo(), STATE);
-        due("back(0)", x.back(0), STATE);
-        due("back(1)", x.back(1), STATE);
-        due("places(0, 0)", x.places(0, 0), BAD);
-        due("takes(0, 0)", x.takes(0, 0), BAD);
-    }
-
-    private static void typing() {
-        JumpLengths x = new JumpLengths();
-        due("type(0)", x.type(0), 1);
-        due("type(255)", x.type(255), 2);
-        for (int c : new int[] {-1, 256, LOWEST, HIGHEST}) due("type(" + c + ")", x.type(c), BAD);
-        due("count(8)", x.count(8), 2);
-        for (int n = 3; n <= 150; n++) due("type " + n, x.type(32), n);
-        due("type above 150", x.type(32), FULL);
-        due("a wrong type above 150", x.type(256), BAD);
-        due("count(8) of a full text", x.count(8), 150);
-    }
-
-    private static void clearing() {
-        JumpLengths x = told("r9;o3;l a;j a;");
-        due("clear of nothing", x.clear(), 0);
-        type(x, "o4;");
-        due("clear", x.clear(), 3);
-        due("clear again", x.clear(), 0);
-        counts(x, "behind clear", 3, 1, 0, 0, 1, 9, 0, 0, 0);
-        due("source of a cleared text", x.source(), 0);
-    }
-
-    private static void readingRight() {
-        right("", 0);
-        right("   ", 0);
-        right("r4;", 0);
-        right("r 127 ;", 0);
-        right("o1;o60;a2;a4;a8;a16;i;i;i;l h;j h;c h;", 12);
-        right("  o   1  ;  l   a;j a  ;  ", 3);
-        right("j a;c b;l b;l a;", 4);
-        right("l a;l b;l c;l d;l e;l f;l g;l h;", 8);
-        right("o1;".repeat(32), 32);
-        right("r5;" + "o1;".repeat(32), 32);
-        right("l a;" + "j a;".repeat(10) + "c a;".repeat(6) + "i;i;i;", 20);
-    }
-
-    private static void readingFaults() {
-        fault("o", 1);
-        fault("o ", 2);
-        fault("o5", 2);
-        fault("o5  ", 4);
-        fault("o;", 1);
-        fault("o a;", 2);
-        fault("o0;", 1);
-        fault("o61;", 1);
-        fault("o999;", 1);
-        fault("o1000;", 1);
-        fault("o4294967297;", 1);
-        fault("o01;", 1);
-        fault("o00;", 1);
-        fault("o1 2;", 3);
-        fault("o1a;", 2);
-        fault("o1j a;", 2);
-        fault("o1,", 2);
-        fault("O1;", 0);
-        fault("o1;\t", 3);
-        fault("o1;;", 3);
-        fault("5;", 0);
-        fault("x1;", 0);
-        fault("ol 1;", 0);
-        fault("la;", 0);
-        fault("oz1;", 0);
-        fault("o1z;", 2);
-        fault("a3;", 1);
-        fault("a1;", 1);
-        fault("a0;", 1);
-        fault("a32;", 1);
-        fault("a 6;", 2);
-        fault("l i;", 2);
-        fault("l ab;", 2);
-        fault("l 1;", 2);
-        fault("l;", 1);
-        fault("l a;o1;l a;", 9);
-        fault("l a;j i;", 6);
-        fault("l a;j aa;", 6);
-        fault("c 1;", 2);
-        fault("i 1;", 2);
-        fault("i", 1);
-        fault("i i;", 2);
-        fault("r3;", 1);
-        fault("r128;", 1);
-        fault("r;", 1);
-        fault("r4", 2);
-        fault("r4;r5;", 3);
-        fault("o1;r4;", 3);
-        fault("j a;", 4);
-        fault("c h;  ", 6);
-        fault("j a;l b;", 8);
-        fault("j a;x", 4);
-        fault("x?", 0);
-        fault("o1;?x", 3);
-        fault("i;i;i;i", 6);
-        fault("o1;".repeat(32) + "o", 96);
-        fault("o1;".repeat(32) + "x", 96);
-        fault("l a;" + "j a;".repeat(10) + "j", 44);
-        fault("l a;" + "c a;".repeat(6) + "c", 28);
-        fault((char) 0 + "o1;", 0);
-        fault("o1;" + (char) 255, 3);
-    }
-
-    private static void readingAnew() {
-        JumpLengths x = told("r9;o3;l a;j a;i;");
-        x.sizes(0, 7);
-        x.pins(2);
-        x.places(0, 0);
-        x.keep(0);
-        x.keep(1);
-        x.pins(2);
-        type(x, "o5;l a;j a;i;?");
-        due("a fault", x.source(), -10 - 13);
-        counts(x, "behind a fault", 4, 1, 0, 1, 1, 9, 1, 4, 14);
-        due("item(0, 1) behind a fault", x.item(0, 1), 7);
-        due("back(0) behind a fault", x.back(0), 1);
-        due("pinned behind a fault", x.item(2, 2), 1);
-        x.clear();
-        type(x, "o5;l a;j a;i;");
-        due("source", x.source(), 4);
-        counts(x, "read anew", 4, 1, 0, 1, 1, 20, 0, 0, 0);
-        due("item(0, 1) read anew", x.item(0, 1), 5);
-        due("item(2, 2) read anew", x.item(2, 2), 0);
-        due("item(3, 1) read anew", x.item(3, 1), 0);
-        due("undo() read anew", x.undo(), STATE);
-        due("back(0) read anew", x.back(0), STATE);
-        due("back(1) read anew", x.back(1), STATE);
-        due("way(0, 0) read anew", x.way(0, 0), 7);
-        due("source of nothing", x.source(), 0);
-        counts(x, "of nothing", 0, 0, 0, 0, 0, 20, 0, 0, 0);
-        due("way(0, 0) of nothing", x.way(0, 0), 0);
-        for (int time = 0; time < 2; time++) {
-            type(x, "l a;" + "j a;".repeat(10) + "c a;".repeat(6) + "i;i;i;" + "o1;".repeat(12));
-            due("source of as many as may be", x.source(), 32);
-            counts(x, "of as many as may be", 32, 10, 6, 3, 12, 20, 0, 0, 0);
-            due("way(0, 0) of as many as may be", x.way(0, 0), 44);
-            due("lies(0, 31, 0) of as many as may be", x.lies(0, 31, 0), 43);
-            due("lies(0, 31, 1) of as many as may be", x.lies(0, 31, 1), 1);
-        }
-    }
-
     private static void items() {
         JumpLengths x = told("o7;l c;j h;a16;c c;i;l h;");
         int[][] wants = {{0, 7}, {1, 2}, {2, 7}, {3, 16}, {4, 2}, {5, 0}, {1, 7}};
@@ -512,20 +356,6 @@ public final class PromisesTest extends Checks {
         due("fewest(0) over a pinned jump and more", x.fewest(0), NONE);
     }
 
-    private static void fewest(String text, int many, int which) {
-        JumpLengths x = told(text);
-        due("fewest(0) of '" + text + "'", x.fewest(0), many);
-        due("fewest(1) of '" + text + "'", x.fewest(1), which);
-        due("no island is placed by it", x.count(6), 0);
-        due("nothing may be undone of it", x.count(7), 0);
-    }
-
-    private static void odds(String text, int k, int x, int upper, int lower) {
-        JumpLengths object = told(text);
-        due("odds(" + k + ", " + x + ", 0) of '" + text + "'", object.odds(k, x, 0), upper);
-        due("odds(" + k + ", " + x + ", 1) of '" + text + "'", object.odds(k, x, 1), lower);
-    }
-
     private static void chances() {
         odds("r10;j a;o5;o5;l a;", 0, 3, 51, 100);
         odds("r10;j a;o5;o5;l a;", 0, 5, 3, 4);
@@ -628,15 +458,6 @@ public final class PromisesTest extends Checks {
         due("undo of the second image", x.undo(), 0);
         due("its pin", x.item(2, 2), 0);
         due("its size", x.item(0, 1), 5);
-    }
-
-    private static void counting() {
-        JumpLengths x = told("r33;l a;j a;j a;c a;c a;c a;i;i;o1;o1;o1;o1;a2;");
-        x.places(1, 0);
-        x.pins(1);
-        type(x, "xyz");
-        counts(x, "of all", 13, 2, 3, 2, 4, 33, 1, 2, 3);
-        for (int what : new int[] {-1, 9, LOWEST, HIGHEST}) due("count(" + what + ")", x.count(what), BAD);
     }
 
     private static void constants() {

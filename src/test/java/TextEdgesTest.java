@@ -203,6 +203,18 @@ public final class TextEdgesTest extends Checks {
         due("way(0, 0)", x.way(0, 0), 5);
     }
 
+    private static void readAnewAllIsFoundAnew() {
+        says("Promise 4", "THE TEXT tells all, and is empty then: how many ITEMS.");
+        JumpLengths x = told("j a;o30;l a;c a;");
+        for (int way : WAYS) ways(x, "what was told first", way, 37, 1, way == 0 ? 1 : 0, 0, 1, 769);
+        due("fewest(0) of what was told first", x.fewest(0), 0);
+        type(x, "c a;o60;l a;i;j a;");
+        x.source();
+        for (int way : WAYS) ways(x, "what is told anew", way, 64, 0, way == 1 ? 1 : 0, 0, 0, 1218);
+        due("fewest(0) of what is told anew", x.fewest(0), NONE);
+        due("narrow() of what is told anew", x.narrow(), 4);
+    }
+
     // ---- promise 4: how many there may be
 
     private static void itemsAre32AtMost() {
@@ -255,8 +267,14 @@ public final class TextEdgesTest extends Checks {
     private static void allLimitsAtOnce() {
         says("Terms", "too many ITEMS, JUMPS, CALLS, SPOTS (at the letter)");
         String text = "l a;" + "j a;".repeat(10) + "c a;".repeat(6) + "i;i;i;" + "o1;".repeat(12);
-        right(text, 32);
-        counts(told(text), "of all that may be", 32, 10, 6, 3, 12, 20, 0, 0, 0);
+        JumpLengths x = new JumpLengths();
+        // What the first text told takes no room from the second.
+        for (int time = 0; time < 2; time++) {
+            type(x, text);
+            due("source of all that may be", x.source(), 32);
+            counts(x, "of all that may be", 32, 10, 6, 3, 12, 20, 0, 0, 0);
+            due("lies(0, 31, 0) of all that may be", x.lies(0, 31, 0), 43);
+        }
         fault(text + "o1;", 110);
         String fewer = text.substring(0, text.length() - 3);
         for (String more : new String[] {"j a;", "c a;", "i;"}) fault(fewer + more, 107);
@@ -265,6 +283,7 @@ public final class TextEdgesTest extends Checks {
     // ---- promise 4: what a NUMBER, a LABEL may be
 
     private static void sizesAre1To60() {
+        says("Terms", "a NUMBER beyond what it may be, too");
         says("Terms", "OP (SIZE 1 .. 60)");
         for (int size = 0; size <= 70; size++) {
             boolean may = size >= 1 && size <= 60;
@@ -276,7 +295,7 @@ public final class TextEdgesTest extends Checks {
     }
 
     private static void labelsAreAToH() {
-        says("Terms", "LABEL (a .. h, each once at most)");
+        says("Terms", "are no LABEL's");
         for (char letter = 'a'; letter <= 'z'; letter++) {
             boolean may = letter <= 'h';
             rightOrFault("l " + letter + ";", may ? 1 : -1, 2);
