@@ -882,7 +882,7 @@ public final class JumpLengths {
             tried.becomeAs(now);
             laidFor = -1;
             for (int more = 0; more <= FEWEST_MOST; more++) {
-                int islands = leastWith(0, LABELS * program.spots, more);
+                int islands = leastWith(this, 0, LABELS * program.spots, more);
                 if (islands >= 0) return islands;
             }
             return NONE;
@@ -911,13 +911,14 @@ public final class JumpLengths {
 
         /**
          * The least set that serves all, of the given islands and some more below a bit; NONE. The highest
-         * bit is chosen first, the lowest choice first, so sets come as their numbers grow.
+         * bit is chosen first, the lowest choice first, so sets come as their numbers grow. It calls itself
+         * as often as more says, so it is static, as LANGUAGE.md's rule 8 has it.
          */
-        private int leastWith(int islands, int below, int more) {
-            if (more <= 0) return servesAllBy(islands) ? islands : NONE;
+        private static int leastWith(Search search, int islands, int below, int more) {
+            if (more <= 0) return search.servesAllBy(islands) ? islands : NONE;
             for (int bit = 0; bit < below; bit++) {
-                if (!program.hasLabel(bit % LABELS)) continue;
-                int least = leastWith(islands | 1 << bit, bit, more - 1);
+                if (!search.program.hasLabel(bit % LABELS)) continue;
+                int least = leastWith(search, islands | 1 << bit, bit, more - 1);
                 if (least >= 0) return least;
             }
             return NONE;
